@@ -260,7 +260,7 @@ public final class OrderDesk {
 
         /** Whether a thing can be the next one of a row of which the things of a set stand already. */
         boolean canFollow(int set, int v) {
-            return (set & (1 << v)) == 0 && (below[v] & ~set) == 0;
+            return (downFrom(v) & ~set) == 1 << v;
         }
     }
 
@@ -471,28 +471,29 @@ public final class OrderDesk {
         /** Holds for ideals only; what stands at other sets is left from earlier orders. */
         private long[] endings = new long[FIRST_ROOM];
         private int ideals;
-        private int seen = NONE;
+        private int beginningsSeen = NONE;
+        private int endingsSeen = NONE;
 
         RowTable(Order order) {
             this.order = order;
         }
 
         long total() {
-            refresh();
-            return endings[0];
+            refreshBeginnings();
+            return beginnings[order.all()];
         }
 
         int ideals() {
-            refresh();
+            refreshBeginnings();
             return ideals;
         }
 
         long rowsWithFirst(int a, int b) {
-            refresh();
+            refreshEndings();
             int all = order.all();
             long sum = 0;
             for (int set = 0; set <= all; set++) {
-                if ((set & (1 << a)) != 0) {
+                if ((set & (1 << a)) != 0 && beginnings[set] != 0) {
                     sum += rowsWithStep(set, b);
                 }
             }
@@ -500,27 +501,24 @@ public final class OrderDesk {
         }
 
         long rowsWithPlace(int v, int place) {
-            refresh();
+            refreshEndings();
             int all = order.all();
             long sum = 0;
             for (int set = 0; set <= all; set++) {
-                if (Integer.bitCount(set) == place) {
+                if (beginnings[set] != 0 && Integer.bitCount(set) == place) {
                     sum += rowsWithStep(set, v);
                 }
             }
             return sum;
         }
 
-        /** In how many rows just the things of a set come before a thing. */
-        private long rowsWithStep(int set, int v) {
-            if (beginnings[set] == 0 || !order.canFollow(set, v)) {
-                return 0;
-            }
-            return beginnings[set] * endings[set | (1 << v)];
+        /** In how many rows just the things of an ideal come before a thing. */
+        private long rowsWithStep(int ideal, int v) {
+            return beginnings[ideal] * rowsOnFrom(ideal, v);
         }
 
         long rowNumbered(long k) {
-            refresh();
+            refreshEndings();
             if (k < 0 || k >= endings[0]) {
                 return NONE;
             }
@@ -540,7 +538,7 @@ public final class OrderDesk {
         }
 
         long numberOf(long row) {
-            refresh();
+            refreshEndings();
             if (row >>> (BITS_PER_PLACE * order.size) != 0) {
                 return NONE;
             }
@@ -563,11 +561,18 @@ public final class OrderDesk {
             return order.canFollow(placed, v) ? endings[placed | (1 << v)] : 0;
         }
 
-        private void refresh() {
-            if (seen != order.version) {
-                seen = order.version;
+        private void refreshBeginnings() {
+            if (beginningsSeen != order.version) {
+                beginningsSeen = order.version;
                 makeRoom(1 << order.size);
                 countBeginnings();
+            }
+        }
+
+        private void refreshEndings() {
+            refreshBeginnings();
+            if (endingsSeen != order.version) {
+                endingsSeen = order.version;
                 countEndings();
             }
         }
@@ -587,11 +592,18 @@ public final class OrderDesk {
             for (int set = 0; set <= all; set++) {
                 if (beginnings[set] != 0) {
                     ideals++;
-                    for (int v = 0; v < order.size; v++) {
-                        if (order.canFollow(set, v)) {
-                            beginnings[set | (1 << v)] += beginnings[set];
-                        }
-                    }
+                    handOn(set, all & ~set);
+                }
+            }
+        }
+
+        /** Each ideal is made from ideals with one thing less, which all have lesser numbers. */
+        private void handOn(int ideal, int missing) {
+            long ways = beginnings[ideal];
+            for (int v = 0; v < order.size; v++) {
+                int one = 1 << v;
+                if ((missing & one) != 0 && (order.below[v] & missing) == 0) {
+                    beginnings[ideal | one] += ways;
                 }
             }
         }
@@ -601,13 +613,20 @@ public final class OrderDesk {
             endings[all] = 1;
             for (int set = all - 1; set >= 0; set--) {
                 if (beginnings[set] != 0) {
-                    long sum = 0;
-                    for (int v = 0; v < order.size; v++) {
-                        sum += rowsOnFrom(set, v);
-                    }
-                    endings[set] = sum;
+                    endings[set] = sumOfEndings(set, all & ~set);
                 }
             }
+        }
+
+        private long sumOfEndings(int ideal, int missing) {
+            long sum = 0;
+            for (int v = 0; v < order.size; v++) {
+                int one = 1 << v;
+                if ((missing & one) != 0 && (order.below[v] & missing) == 0) {
+                    sum += endings[ideal | one];
+                }
+            }
+            return sum;
         }
     }
 
