@@ -18,6 +18,10 @@ final class Check {
         due(call, got ? 1 : 0, want ? 1 : 0);
     }
 
+    static void same(String call, long[] got, long[] want) {
+        due(call, java.util.Arrays.equals(got, want), true);
+    }
+
     static void finish() {
         System.out.println(checked + " answers looked at, " + wrong + " not as due");
         if (wrong != 0 || checked == 0) {

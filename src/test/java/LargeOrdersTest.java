@@ -147,17 +147,9 @@ public final class LargeOrdersTest {
         }
     }
 
-    /** Seven and seven, each below all but one: its cuts are all the subsets of seven. */
+    /** The cuts of the crown are as all the subsets of seven. */
     private static void checkCrown() {
-        OrderDesk desk = new OrderDesk();
-        desk.begin(14);
-        for (int a = 0; a < 7; a++) {
-            for (int b = 0; b < 7; b++) {
-                if (a != b) {
-                    desk.put(a, 7 + b);
-                }
-            }
-        }
+        OrderDesk desk = Desks.crown();
         Check.due("cuts of the crown", desk.count(5), 128);
         for (int k = 0; k < 128; k++) {
             int things = Integer.bitCount(desk.cut(k) & 127);

@@ -32,41 +32,6 @@ public final class PromiseTest {
         Check.finish();
     }
 
-    private static OrderDesk desk(int n, int... pairs) {
-        OrderDesk desk = new OrderDesk();
-        desk.begin(n);
-        for (int i = 0; i + 1 < pairs.length; i += 2) {
-            desk.put(pairs[i], pairs[i + 1]);
-        }
-        return desk;
-    }
-
-    /** 4 below 1 below 0, and 4 below 3 below 2 below 0: a pentagon told against its numbers. */
-    private static OrderDesk pentagon() {
-        return desk(5, 4, 1, 1, 0, 4, 3, 3, 2, 2, 0);
-    }
-
-    /** 0 below 2 and 3, 1 below 3: the letter N. */
-    private static OrderDesk letterN() {
-        return desk(4, 0, 2, 0, 3, 1, 3);
-    }
-
-    private static OrderDesk line(int n) {
-        OrderDesk desk = desk(n);
-        for (int v = 1; v < n; v++) {
-            desk.put(v - 1, v);
-        }
-        return desk;
-    }
-
-    private static long rowOf(int... things) {
-        long row = 0;
-        for (int p = things.length - 1; p >= 0; p--) {
-            row = row * 16 + things[p];
-        }
-        return row;
-    }
-
     private static void promise01NewObject() {
         OrderDesk desk = new OrderDesk();
         Check.due("1: NONE", NONE, -1);
@@ -123,7 +88,7 @@ public final class PromiseTest {
     }
 
     private static void promise03Put() {
-        OrderDesk desk = desk(6);
+        OrderDesk desk = Desks.desk(6);
         Check.due("3: put(0, 1)", desk.put(0, 1), 1);
         Check.due("3: put(0, 1) again", desk.put(0, 1), 0);
         Check.due("3: put(1, 0)", desk.put(1, 0), NONE);
@@ -143,7 +108,7 @@ public final class PromiseTest {
             Check.due("3: put(" + v + ", " + v + ")", desk.put(v, v), NONE);
         }
         Check.due("3: wrong calls change nothing", desk.count(1), 13);
-        OrderDesk backwards = desk(14);
+        OrderDesk backwards = Desks.desk(14);
         for (int v = 13; v > 0; v--) {
             Check.due("3: put(" + v + ", " + (v - 1) + ")", backwards.put(v, v - 1), 14 - v);
         }
@@ -151,7 +116,7 @@ public final class PromiseTest {
     }
 
     private static void promise04Free() {
-        OrderDesk desk = line(5);
+        OrderDesk desk = Desks.line(5);
         Check.due("4: free(2)", desk.free(2), 4);
         Check.due("4: what followed over 2 stays", desk.isBelow(1, 3), true);
         Check.due("4: isBelow(1, 2)", desk.isBelow(1, 2), false);
@@ -171,7 +136,7 @@ public final class PromiseTest {
     }
 
     private static void promise05IsBelow() {
-        OrderDesk desk = letterN();
+        OrderDesk desk = Desks.letterN();
         int[] above = {12, 8, 0, 0};
         for (int a = 0; a < 4; a++) {
             for (int b = 0; b < 4; b++) {
@@ -184,13 +149,13 @@ public final class PromiseTest {
         }
         Check.due("5: isBelow(0, 4)", desk.isBelow(0, 4), false);
         Check.due("5: isBelow(4, 3)", desk.isBelow(4, 3), false);
-        OrderDesk shrunk = line(6);
+        OrderDesk shrunk = Desks.line(6);
         shrunk.begin(3);
         Check.due("5: isBelow(0, 5) of things gone", shrunk.isBelow(0, 5), false);
     }
 
     private static void promise06Covers() {
-        OrderDesk desk = pentagon();
+        OrderDesk desk = Desks.pentagon();
         int[] covers = {0, 1, 1, 4, 10};
         for (int v = 0; v < 5; v++) {
             Check.due("6: covers(" + v + ")", desk.covers(v), covers[v]);
@@ -199,9 +164,9 @@ public final class PromiseTest {
             Check.due("6: covers(" + v + ")", desk.covers(v), NONE);
         }
         Check.due("6: covers(5)", desk.covers(5), NONE);
-        OrderDesk shortcut = desk(3, 0, 2, 0, 1, 1, 2);
+        OrderDesk shortcut = Desks.desk(3, 0, 2, 0, 1, 1, 2);
         Check.due("6: a pair told is no cover if one comes between", shortcut.covers(0), 2);
-        Check.due("6: covers of the lowest of 14", line(14).covers(0), 2);
+        Check.due("6: covers of the lowest of 14", Desks.line(14).covers(0), 2);
     }
 
     private static void promise07Count() {
@@ -209,14 +174,15 @@ public final class PromiseTest {
         int[] ofN = {4, 3, 2, 2, 8, 6};
         int[] ofLine = {14, 91, 14, 1, 15, 14};
         for (int what = 0; what < 6; what++) {
-            Check.due("7: count(" + what + ") of the pentagon", pentagon().count(what), ofPentagon[what]);
-            Check.due("7: count(" + what + ") of the N", letterN().count(what), ofN[what]);
-            Check.due("7: count(" + what + ") of the line", line(14).count(what), ofLine[what]);
+            int got = Desks.pentagon().count(what);
+            Check.due("7: count(" + what + ") of the pentagon", got, ofPentagon[what]);
+            Check.due("7: count(" + what + ") of the N", Desks.letterN().count(what), ofN[what]);
+            Check.due("7: count(" + what + ") of the line", Desks.line(14).count(what), ofLine[what]);
         }
         for (int what : new int[] {Integer.MIN_VALUE, -1, 6, 7, 100, Integer.MAX_VALUE}) {
-            Check.due("7: count(" + what + ")", pentagon().count(what), NONE);
+            Check.due("7: count(" + what + ")", Desks.pentagon().count(what), NONE);
         }
-        OrderDesk desk = desk(3);
+        OrderDesk desk = Desks.desk(3);
         Check.due("7: cuts before a change", desk.count(5), 5);
         Check.due("7: ideals before a change", desk.count(4), 8);
         desk.put(2, 1);
@@ -230,7 +196,7 @@ public final class PromiseTest {
     }
 
     private static void promise08Chain() {
-        OrderDesk desk = pentagon();
+        OrderDesk desk = Desks.pentagon();
         int[] things = {4, 3, 2, 0};
         for (int i = 0; i < things.length; i++) {
             Check.due("8: chain(" + i + ")", desk.chain(i), things[i]);
@@ -239,34 +205,35 @@ public final class PromiseTest {
         for (int i : WRONG_NUMBERS) {
             Check.due("8: chain(" + i + ")", desk.chain(i), NONE);
         }
-        OrderDesk lowestDecides = desk(6, 1, 5, 5, 4, 2, 0, 0, 3);
+        OrderDesk lowestDecides = Desks.desk(6, 1, 5, 5, 4, 2, 0, 0, 3);
         Check.due("8: the lowest thing decides first", lowestDecides.chain(0), 1);
         Check.due("8: then the one over it", lowestDecides.chain(1), 5);
-        OrderDesk secondDecides = desk(5, 4, 3, 4, 1, 3, 0, 1, 2);
+        OrderDesk secondDecides = Desks.desk(5, 4, 3, 4, 1, 3, 0, 1, 2);
         Check.due("8: of one lowest thing the lesser next", secondDecides.chain(1), 1);
         Check.due("8: and what is over that", secondDecides.chain(2), 2);
-        OrderDesk shortFirst = desk(4, 0, 3, 1, 2, 2, 3);
+        OrderDesk shortFirst = Desks.desk(4, 0, 3, 1, 2, 2, 3);
         Check.due("8: length goes before numbers", shortFirst.chain(0), 1);
-        OrderDesk deadEnd = desk(5, 0, 1, 0, 2, 2, 3, 4, 1);
+        OrderDesk deadEnd = Desks.desk(5, 0, 1, 0, 2, 2, 3, 4, 1);
         Check.due("8: a lesser thing that leads nowhere is passed by", deadEnd.chain(1), 2);
-        Check.due("8: all 14 in the chain", line(14).chain(13), 13);
+        Check.due("8: all 14 in the chain", Desks.line(14).chain(13), 13);
     }
 
     private static void promise09Apart() {
-        Check.due("9: of the pentagon", pentagon().apart(), 6);
-        Check.due("9: of the N", letterN().apart(), 3);
-        Check.due("9: of a line", line(14).apart(), 1);
-        Check.due("9: of 14 that keep apart", desk(14).apart(), 16383);
-        Check.due("9: the least number, not the first in writing", desk(4, 0, 1, 0, 2, 3, 1, 3, 2).apart(), 6);
-        Check.due("9: without the greatest things", desk(6, 3, 0, 4, 1, 5, 2).apart(), 7);
-        OrderDesk desk = desk(3, 0, 1);
+        Check.due("9: of the pentagon", Desks.pentagon().apart(), 6);
+        Check.due("9: of the N", Desks.letterN().apart(), 3);
+        Check.due("9: of a line", Desks.line(14).apart(), 1);
+        Check.due("9: of 14 that keep apart", Desks.desk(14).apart(), 16383);
+        OrderDesk twoApart = Desks.desk(4, 0, 1, 0, 2, 3, 1, 3, 2);
+        Check.due("9: the least number, not the first in writing", twoApart.apart(), 6);
+        Check.due("9: without the greatest things", Desks.desk(6, 3, 0, 4, 1, 5, 2).apart(), 7);
+        OrderDesk desk = Desks.desk(3, 0, 1);
         Check.due("9: before a change", desk.apart(), 5);
         desk.free(0);
         Check.due("9: after a change", desk.apart(), 7);
     }
 
     private static void promise10Next() {
-        OrderDesk desk = pentagon();
+        OrderDesk desk = Desks.pentagon();
         int[] nexts = {NONE, 0, NONE, 2, 1};
         for (int v = 0; v < 5; v++) {
             Check.due("10: next(" + v + ")", desk.next(v), nexts[v]);
@@ -275,39 +242,39 @@ public final class PromiseTest {
             Check.due("10: next(" + v + ")", desk.next(v), NONE);
         }
         Check.due("10: next(5)", desk.next(5), NONE);
-        OrderDesk mustYield = letterN();
+        OrderDesk mustYield = Desks.letterN();
         Check.due("10: 0 has 2, as 1 needs 3", mustYield.next(0), 2);
         Check.due("10: 1 has 3", mustYield.next(1), 3);
-        OrderDesk yields = desk(4, 0, 2, 0, 3, 1, 2);
+        OrderDesk yields = Desks.desk(4, 0, 2, 0, 3, 1, 2);
         Check.due("10: 0 leaves 2 to 1", yields.next(0), 3);
         Check.due("10: 1 has 2", yields.next(1), 2);
-        OrderDesk skips = desk(3, 0, 2, 2, 1);
+        OrderDesk skips = Desks.desk(3, 0, 2, 2, 1);
         Check.due("10: fewer chains go before a lesser next one", skips.next(0), 2);
-        OrderDesk passesBy = desk(4, 2, 0, 2, 1, 3, 0, 3, 1);
+        OrderDesk passesBy = Desks.desk(4, 2, 0, 2, 1, 3, 0, 3, 1);
         Check.due("10: 2 has the least", passesBy.next(2), 0);
         Check.due("10: 3 has what remains", passesBy.next(3), 1);
-        OrderDesk over = desk(5, 0, 3, 3, 1, 2, 3, 3, 4);
+        OrderDesk over = Desks.desk(5, 0, 3, 3, 1, 2, 3, 3, 4);
         Check.due("10: a next one need not cover", over.next(0), 1);
         Check.due("10: the other one goes through 3", over.next(2), 3);
         Check.due("10: and on", over.next(3), 4);
     }
 
     private static void promise11Rows() {
-        Check.due("11: of the pentagon", pentagon().rows(), 3);
-        Check.due("11: of the N", letterN().rows(), 5);
-        Check.due("11: of a line", line(14).rows(), 1);
+        Check.due("11: of the pentagon", Desks.pentagon().rows(), 3);
+        Check.due("11: of the N", Desks.letterN().rows(), 5);
+        Check.due("11: of a line", Desks.line(14).rows(), 1);
         long factorial = 1;
         for (int n = 1; n <= 14; n++) {
             factorial *= n;
-            Check.due("11: of " + n + " that keep apart", desk(n).rows(), factorial);
+            Check.due("11: of " + n + " that keep apart", Desks.desk(n).rows(), factorial);
         }
-        OrderDesk desk = desk(4);
+        OrderDesk desk = Desks.desk(4);
         Check.due("11: before a change", desk.rows(), 24);
         desk.put(3, 0);
         Check.due("11: after a put", desk.rows(), 12);
         desk.free(3);
         Check.due("11: after a free", desk.rows(), 24);
-        OrderDesk twoLines = desk(14);
+        OrderDesk twoLines = Desks.desk(14);
         for (int v = 0; v < 12; v++) {
             twoLines.put(v, v + 2);
         }
@@ -315,7 +282,7 @@ public final class PromiseTest {
     }
 
     private static void promise12Before() {
-        OrderDesk desk = letterN();
+        OrderDesk desk = Desks.letterN();
         long[][] due = {
             {NONE, 3, 5, 5}, {2, NONE, 4, 5}, {0, 1, NONE, 3}, {0, 0, 2, NONE}
         };
@@ -330,11 +297,11 @@ public final class PromiseTest {
         }
         Check.due("12: before(4, 0)", desk.before(4, 0), NONE);
         Check.due("12: before(0, 4)", desk.before(0, 4), NONE);
-        Check.due("12: half of all rows of 14", desk(14).before(13, 0), 43589145600L);
+        Check.due("12: half of all rows of 14", Desks.desk(14).before(13, 0), 43589145600L);
     }
 
     private static void promise13Places() {
-        OrderDesk desk = letterN();
+        OrderDesk desk = Desks.letterN();
         long[][] due = {{3, 2, 0, 0}, {2, 2, 1, 0}, {0, 1, 2, 2}, {0, 0, 2, 3}};
         for (int v = 0; v < 4; v++) {
             for (int place = 0; place < 4; place++) {
@@ -347,7 +314,7 @@ public final class PromiseTest {
         }
         Check.due("13: places(4, 0)", desk.places(4, 0), NONE);
         Check.due("13: places(0, 4)", desk.places(0, 4), NONE);
-        Check.due("13: each place of 14 alike", desk(14).places(13, 13), 6227020800L);
+        Check.due("13: each place of 14 alike", Desks.desk(14).places(13, 13), 6227020800L);
     }
 
     private static final int[][] ROWS_OF_N = {
@@ -355,34 +322,34 @@ public final class PromiseTest {
     };
 
     private static void promise14Row() {
-        OrderDesk desk = letterN();
+        OrderDesk desk = Desks.letterN();
         for (int k = 0; k < ROWS_OF_N.length; k++) {
-            Check.due("14: row(" + k + ")", desk.row(k), rowOf(ROWS_OF_N[k]));
+            Check.due("14: row(" + k + ")", desk.row(k), Desks.rowOf(ROWS_OF_N[k]));
         }
         for (long k : new long[] {Long.MIN_VALUE, -1, 5, 6, 4294967296L, Long.MAX_VALUE}) {
             Check.due("14: row(" + k + ")", desk.row(k), NONE);
         }
-        OrderDesk all = desk(14);
+        OrderDesk all = Desks.desk(14);
         Check.due("14: the first row of 14", all.row(0), 0xDCBA9876543210L);
         Check.due("14: the last row of 14", all.row(87178291199L), 0x0123456789ABCDL);
         Check.due("14: none after it", all.row(87178291200L), NONE);
     }
 
     private static void promise15Rank() {
-        OrderDesk desk = letterN();
+        OrderDesk desk = Desks.letterN();
         for (int k = 0; k < ROWS_OF_N.length; k++) {
-            Check.due("15: rank of row " + k, desk.rank(rowOf(ROWS_OF_N[k])), k);
+            Check.due("15: rank of row " + k, desk.rank(Desks.rowOf(ROWS_OF_N[k])), k);
         }
-        Check.due("15: a thing before what is below it", desk.rank(rowOf(2, 0, 1, 3)), NONE);
-        Check.due("15: a thing twice", desk.rank(rowOf(0, 1, 2, 2)), NONE);
-        Check.due("15: a thing that there is not", desk.rank(rowOf(0, 1, 2, 4)), NONE);
-        Check.due("15: the last thing left out", desk.rank(rowOf(0, 1, 2)), NONE);
-        Check.due("15: a place too many", desk.rank(rowOf(0, 1, 2, 3, 1)), NONE);
-        Check.due("15: a bit far up", desk.rank(rowOf(0, 1, 2, 3) | 1L << 62), NONE);
-        Check.due("15: the sign", desk.rank(rowOf(0, 1, 2, 3) | Long.MIN_VALUE), NONE);
+        Check.due("15: a thing before what is below it", desk.rank(Desks.rowOf(2, 0, 1, 3)), NONE);
+        Check.due("15: a thing twice", desk.rank(Desks.rowOf(0, 1, 2, 2)), NONE);
+        Check.due("15: a thing that there is not", desk.rank(Desks.rowOf(0, 1, 2, 4)), NONE);
+        Check.due("15: the last thing left out", desk.rank(Desks.rowOf(0, 1, 2)), NONE);
+        Check.due("15: a place too many", desk.rank(Desks.rowOf(0, 1, 2, 3, 1)), NONE);
+        Check.due("15: a bit far up", desk.rank(Desks.rowOf(0, 1, 2, 3) | 1L << 62), NONE);
+        Check.due("15: the sign", desk.rank(Desks.rowOf(0, 1, 2, 3) | Long.MIN_VALUE), NONE);
         Check.due("15: 0", desk.rank(0), NONE);
         Check.due("15: -1", desk.rank(-1), NONE);
-        OrderDesk all = desk(14);
+        OrderDesk all = Desks.desk(14);
         Check.due("15: the last row of 14", all.rank(0x0123456789ABCDL), 87178291199L);
         Check.due("15: a place too many behind 14", all.rank(0x0123456789ABCDL | 1L << 56), NONE);
         Check.due("15: the sign behind 14", all.rank(0x0123456789ABCDL | Long.MIN_VALUE), NONE);
@@ -391,13 +358,13 @@ public final class PromiseTest {
 
     private static void promise16Cut() {
         int[] ofN = {0, 1, 2, 5, 11, 15};
-        OrderDesk desk = letterN();
+        OrderDesk desk = Desks.letterN();
         for (int k = 0; k < ofN.length; k++) {
             Check.due("16: cut(" + k + ") of the N", desk.cut(k), ofN[k]);
         }
         Check.due("16: cut(6) of the N", desk.cut(6), NONE);
         int[] ofPentagon = {16, 18, 24, 28, 31};
-        OrderDesk five = pentagon();
+        OrderDesk five = Desks.pentagon();
         for (int k = 0; k < ofPentagon.length; k++) {
             Check.due("16: cut(" + k + ") of the pentagon", five.cut(k), ofPentagon[k]);
         }
@@ -405,14 +372,14 @@ public final class PromiseTest {
         for (int k : new int[] {Integer.MIN_VALUE, -1, 8, 16384, Integer.MAX_VALUE}) {
             Check.due("16: cut(" + k + ")", desk.cut(k), NONE);
         }
-        OrderDesk apart = desk(14);
+        OrderDesk apart = Desks.desk(14);
         Check.due("16: nothing is a cut of 14 that keep apart", apart.cut(0), 0);
         Check.due("16: cut(14)", apart.cut(14), 8192);
         Check.due("16: all are a cut", apart.cut(15), 16383);
     }
 
     private static void promise17Least() {
-        OrderDesk desk = letterN();
+        OrderDesk desk = Desks.letterN();
         int[] due = {0, 1, 2, 4, 3, 3, 5, 5, 4, 4, 4, 4, 5, 5, 5, 5};
         for (int set = 0; set < due.length; set++) {
             Check.due("17: least(" + set + ")", desk.least(set), due[set]);
@@ -420,13 +387,13 @@ public final class PromiseTest {
         for (int set : new int[] {Integer.MIN_VALUE, -1, 16, 17, 31, 32768, Integer.MAX_VALUE}) {
             Check.due("17: least(" + set + ")", desk.least(set), NONE);
         }
-        Check.due("17: the lowest thing is in each cut", pentagon().least(0), 0);
-        Check.due("17: least(16383) of 14", desk(14).least(16383), 15);
-        Check.due("17: least(16384) of 14", desk(14).least(16384), NONE);
+        Check.due("17: the lowest thing is in each cut", Desks.pentagon().least(0), 0);
+        Check.due("17: least(16383) of 14", Desks.desk(14).least(16383), 15);
+        Check.due("17: least(16384) of 14", Desks.desk(14).least(16384), NONE);
     }
 
     private static void promise18Joined() {
-        OrderDesk desk = letterN();
+        OrderDesk desk = Desks.letterN();
         Check.due("18: join of {0} and {1}", desk.joined(1, 2, false), 4);
         Check.due("18: meet of {0} and {1}", desk.joined(1, 2, true), 0);
         Check.due("18: join of {1} and {0, 2}", desk.joined(2, 3, false), 5);
@@ -444,7 +411,7 @@ public final class PromiseTest {
     }
 
     private static void promise19Mu() {
-        OrderDesk desk = pentagon();
+        OrderDesk desk = Desks.pentagon();
         int[][] due = {
             {1, 0, 0, 0, 0}, {-1, 1, 0, 0, 0}, {-1, 0, 1, 0, 0}, {0, 0, -1, 1, 0}, {1, -1, 0, -1, 1}
         };
@@ -459,13 +426,13 @@ public final class PromiseTest {
             Check.due("19: mu(" + v + ", " + v + ")", desk.mu(v, v), 0);
         }
         Check.due("19: mu(5, 5)", desk.mu(5, 5), 0);
-        OrderDesk fan = desk(14);
+        OrderDesk fan = Desks.desk(14);
         for (int v = 1; v < 13; v++) {
             fan.put(13, v);
             fan.put(v, 0);
         }
         Check.due("19: twelve between", fan.mu(13, 0), 11);
-        OrderDesk levels = desk(14);
+        OrderDesk levels = Desks.desk(14);
         for (int a = 1; a < 13; a++) {
             levels.put(0, a);
             levels.put(a, 13);
@@ -477,7 +444,7 @@ public final class PromiseTest {
     }
 
     private static void promise20MuOfCuts() {
-        OrderDesk desk = letterN();
+        OrderDesk desk = Desks.letterN();
         Check.due("20: of one with itself", desk.muOfCuts(3, 3), 1);
         Check.due("20: of one with the next over it", desk.muOfCuts(0, 1), -1);
         Check.due("20: of nothing with {0, 1, 3}", desk.muOfCuts(0, 4), 1);
@@ -492,7 +459,7 @@ public final class PromiseTest {
             Check.due("20: muOfCuts(0, " + k + ")", desk.muOfCuts(0, k), 0);
             Check.due("20: muOfCuts(" + k + ", " + k + ")", desk.muOfCuts(k, k), 0);
         }
-        OrderDesk apart = desk(14);
+        OrderDesk apart = Desks.desk(14);
         Check.due("20: fourteen between", apart.muOfCuts(0, 15), 13);
     }
 }
