@@ -1,8 +1,8 @@
 import java.util.Arrays;
 
 /**
- * Orders of up to fourteen things, told pair by pair. Whatever follows from the order is worked out
- * when it is first asked for, and again only after the order has changed.
+ * Orders of up to fourteen things, told pair by pair. The chain, the apart, the parts, the tables of rows
+ * and the list of cuts are worked out when first needed, and again only after the order has changed.
  */
 public final class OrderDesk {
     public static final int NONE = -1;

@@ -6,10 +6,11 @@ public final class BruteForceTest {
     private static final int NONE = OrderDesk.NONE;
     private static final int ORDERS_PER_SIZE = 120;
 
+    /** One for all orders, so that it shows if something is left over from an earlier one. */
+    private final RenewedDesk desk = new RenewedDesk();
     private int seed = 20261115;
     private int n;
     private boolean[][] below;
-    private OrderDesk desk;
     private String told;
 
     private BruteForceTest() {
@@ -36,10 +37,6 @@ public final class BruteForceTest {
     private void tryOrder(int size, int puts, boolean frees) {
         n = size;
         below = new boolean[n][n];
-        // one object sees several orders, so that nothing is left over from an earlier one
-        if (desk == null || draw(5) == 0) {
-            desk = new OrderDesk();
-        }
         told = "begin(" + n + ")";
         Check.due(told, desk.begin(n), n);
         for (int i = 0; i < puts; i++) {
@@ -99,8 +96,8 @@ public final class BruteForceTest {
     }
 
     private void checkAll() {
-        due("count(0)", desk.count(0), n);
-        due("count(1)", desk.count(1), pairs());
+        due("count(0)", desk.ask().count(0), n);
+        due("count(1)", desk.ask().count(1), pairs());
         checkPairs();
         checkChain();
         checkApartAndParts();
@@ -130,13 +127,14 @@ public final class BruteForceTest {
             int covers = 0;
             for (int b = -1; b <= n; b++) {
                 boolean real = has(a) && has(b);
-                Check.due(told + " isBelow(" + a + ", " + b + ")", desk.isBelow(a, b), real && below[a][b]);
-                due("mu(" + a + ", " + b + ")", desk.mu(a, b), real ? muOfThings(a, b) : 0);
-                if (real && below[a][b] && !isBetween(a, b)) {
+                boolean want = real && below[a][b];
+                Check.due(told + " isBelow(" + a + ", " + b + ")", desk.ask().isBelow(a, b), want);
+                due("mu(" + a + ", " + b + ")", desk.ask().mu(a, b), real ? muOfThings(a, b) : 0);
+                if (want && !isBetween(a, b)) {
                     covers |= 1 << b;
                 }
             }
-            due("covers(" + a + ")", desk.covers(a), has(a) ? covers : NONE);
+            due("covers(" + a + ")", desk.ask().covers(a), has(a) ? covers : NONE);
         }
     }
 
@@ -209,9 +207,9 @@ public final class BruteForceTest {
                 }
             }
         }
-        due("count(2)", desk.count(2), best.size());
+        due("count(2)", desk.ask().count(2), best.size());
         for (int i = -1; i <= n; i++) {
-            due("chain(" + i + ")", desk.chain(i), i >= 0 && i < best.size() ? best.get(i) : NONE);
+            due("chain(" + i + ")", desk.ask().chain(i), i >= 0 && i < best.size() ? best.get(i) : NONE);
         }
     }
 
@@ -222,12 +220,12 @@ public final class BruteForceTest {
                 best = set;
             }
         }
-        due("count(3)", desk.count(3), Integer.bitCount(best));
-        due("apart()", desk.apart(), best);
+        due("count(3)", desk.ask().count(3), Integer.bitCount(best));
+        due("apart()", desk.ask().apart(), best);
         int[] nexts = new int[n];
         Check.due(told + " parts are there", partFrom(0, 0, nexts, Integer.bitCount(best)), true);
         for (int v = -1; v <= n; v++) {
-            due("next(" + v + ")", desk.next(v), has(v) ? nexts[v] : NONE);
+            due("next(" + v + ")", desk.ask().next(v), has(v) ? nexts[v] : NONE);
         }
     }
 
@@ -287,13 +285,13 @@ public final class BruteForceTest {
     private void checkRows() {
         List<int[]> rows = new ArrayList<>();
         listRows(new int[n], 0, 0, rows);
-        due("rows()", desk.rows(), rows.size());
+        due("rows()", desk.ask().rows(), rows.size());
         long[][] before = new long[n][n];
         long[][] places = new long[n][n];
         for (int k = 0; k < rows.size(); k++) {
             int[] row = rows.get(k);
-            due("row(" + k + ")", desk.row(k), asNumber(row));
-            due("rank(" + asNumber(row) + ")", desk.rank(asNumber(row)), k);
+            due("row(" + k + ")", desk.ask().row(k), asNumber(row));
+            due("rank(" + asNumber(row) + ")", desk.ask().rank(asNumber(row)), k);
             for (int p = 0; p < n; p++) {
                 places[row[p]][p]++;
                 for (int q = p + 1; q < n; q++) {
@@ -301,13 +299,14 @@ public final class BruteForceTest {
                 }
             }
         }
-        due("row(-1)", desk.row(-1), NONE);
-        due("row(" + rows.size() + ")", desk.row(rows.size()), NONE);
+        due("row(-1)", desk.ask().row(-1), NONE);
+        due("row(" + rows.size() + ")", desk.ask().row(rows.size()), NONE);
         for (int a = -1; a <= n; a++) {
             for (int b = -1; b <= n; b++) {
                 boolean real = has(a) && has(b);
-                due("before(" + a + ", " + b + ")", desk.before(a, b), real && a != b ? before[a][b] : NONE);
-                due("places(" + a + ", " + b + ")", desk.places(a, b), real ? places[a][b] : NONE);
+                long wanted = real && a != b ? before[a][b] : NONE;
+                due("before(" + a + ", " + b + ")", desk.ask().before(a, b), wanted);
+                due("places(" + a + ", " + b + ")", desk.ask().places(a, b), real ? places[a][b] : NONE);
             }
         }
         checkRanksOfOthers(rows);
@@ -326,7 +325,7 @@ public final class BruteForceTest {
             for (int k = 0; k < rows.size(); k++) {
                 want = asNumber(rows.get(k)) == number ? k : want;
             }
-            due("rank(" + number + ")", desk.rank(number), want);
+            due("rank(" + number + ")", desk.ask().rank(number), want);
         }
     }
 
@@ -341,7 +340,7 @@ public final class BruteForceTest {
             }
             ideals += ideal ? 1 : 0;
         }
-        due("count(4)", desk.count(4), ideals);
+        due("count(4)", desk.ask().count(4), ideals);
     }
 
     private boolean isOverAll(int v, int set) {
@@ -374,24 +373,24 @@ public final class BruteForceTest {
             }
         }
         int many = cuts.size();
-        due("count(5)", desk.count(5), many);
+        due("count(5)", desk.ask().count(5), many);
         int[][] mus = musOf(cuts);
         for (int k = -1; k <= many; k++) {
             boolean first = k >= 0 && k < many;
-            due("cut(" + k + ")", desk.cut(k), first ? cuts.get(k) : NONE);
+            due("cut(" + k + ")", desk.ask().cut(k), first ? cuts.get(k) : NONE);
             for (int l = -1; l <= many; l++) {
                 boolean both = first && l >= 0 && l < many;
                 String args = "(" + k + ", " + l;
-                due("joined" + args + ", false)", desk.joined(k, l, false),
+                due("joined" + args + ", false)", desk.ask().joined(k, l, false),
                         both ? leastOver(cuts, cuts.get(k) | cuts.get(l)) : NONE);
-                due("joined" + args + ", true)", desk.joined(k, l, true),
+                due("joined" + args + ", true)", desk.ask().joined(k, l, true),
                         both ? greatestUnder(cuts, cuts.get(k), cuts.get(l)) : NONE);
-                due("muOfCuts" + args + ")", desk.muOfCuts(k, l), both ? mus[k][l] : 0);
+                due("muOfCuts" + args + ")", desk.ask().muOfCuts(k, l), both ? mus[k][l] : 0);
             }
         }
         for (int set = -1; set <= 1 << n; set++) {
             boolean real = set >= 0 && set < 1 << n;
-            due("least(" + set + ")", desk.least(set), real ? leastOver(cuts, set) : NONE);
+            due("least(" + set + ")", desk.ask().least(set), real ? leastOver(cuts, set) : NONE);
         }
     }
 
